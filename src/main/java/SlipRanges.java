@@ -80,9 +80,6 @@ public final class SlipRanges {
         if (!field.has(node)) {
             return UNKNOWN;
         }
-        if (what < 0 || what > 8) {
-            return OUTSIDE;
-        }
         return field.nodes[node].tell(what, field.time);
     }
 
@@ -388,7 +385,7 @@ public final class SlipRanges {
 
     private long withPlaces(long h) {
         for (int tag = 0; tag < field.size; tag++) {
-            if (field.isTag(tag) && field.isPlaced(tag)) {
+            if (field.isPlaced(tag)) {
                 Placing placing = field.placingOf(tag);
                 for (int what = 0; what <= 4; what++) {
                     h = with(h, placing.tell(what));
@@ -569,7 +566,6 @@ public final class SlipRanges {
             start = row[START];
             delay = 100;
             period = tag ? 0 : NONE;
-            next = NONE;
         }
 
         long clockAt(long t) {
@@ -936,6 +932,7 @@ public final class SlipRanges {
             for (int i = 0; i < size; i++) {
                 nodes[i].begin(reader.rows[i]);
             }
+            // Only now is it known of each NODE whether it is an ANCHOR.
             for (int i = 0; i < size; i++) {
                 nodes[i].next = nodes[i].tag ? anchorFrom(0) : NONE;
             }
@@ -1043,14 +1040,11 @@ public final class SlipRanges {
             }
         }
 
-        private boolean haveRange(int tag, int anchor) {
-            return hasPair(tag, anchor) && linkOf(tag, anchor).ranged;
-        }
-
+        /** Other pairs than a TAG and an ANCHOR never have a RANGE, so an ANCHOR is not PLACED. */
         boolean isPlaced(int tag) {
             int ranges = 0;
             for (int anchor = 0; anchor < size; anchor++) {
-                if (haveRange(tag, anchor)) {
+                if (linkOf(tag, anchor).ranged) {
                     ranges++;
                 }
             }
@@ -1071,8 +1065,9 @@ public final class SlipRanges {
         Fitting fittingOf(int tag) {
             fitting.clear();
             for (int anchor = 0; anchor < size; anchor++) {
-                if (haveRange(tag, anchor)) {
-                    fitting.add(anchor, nodes[anchor].x, nodes[anchor].y, linkOf(tag, anchor).range);
+                Link link = linkOf(tag, anchor);
+                if (link.ranged) {
+                    fitting.add(anchor, nodes[anchor].x, nodes[anchor].y, link.range);
                 }
             }
             return fitting;

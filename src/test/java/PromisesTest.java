@@ -358,6 +358,9 @@ public final class PromisesTest {
     private static void firstPath() {
         SlipRanges r = fieldOf(PAIR);
         same("12 at first", r.firstPath(1, 0), 0);
+        r.level(9);
+        same("12 at first LOUD 9", r.firstPath(1, 0), 0);
+        r.level(4);
         r.block(1, 0);
         same("12 none", r.firstPath(1, 0), NONE);
         r.path(1, 0, 2, 3);
@@ -497,6 +500,11 @@ public final class PromisesTest {
         r.exchange(1, 0);
         same("18 the newer", r.range(1, 0), 57);
         pairsAlone("18", r::range);
+        SlipRanges s = fieldOf("t0,0+0@0;t0,5+0@0;a0,9+0@0;a0,30+0@0");
+        rangeAll(s, 0, 2, 3);
+        rangeAll(s, 1, 2, 3);
+        int[] due = {90, 300, 40, 250};
+        for (int i = 0; i < 4; i++) same("18 each pair its own " + i, s.range(i / 2, 2 + i % 2), due[i]);
     }
 
     private static void misfit() {
@@ -544,6 +552,9 @@ public final class PromisesTest {
         r.exchange(0, 5);
         isPlaced("by four", r, 0, 5, 7, 0, 2 + 4 + 8 + 32, 0);
         same("20 the other tag is not", r.placed(4, 0), STATE);
+        SlipRanges s = fieldOf("a0,0+0@0;a31,0+0@0;a0,31+0@0;t5,7+0@0");
+        rangeAll(s, 3, 0, 1, 2);
+        isPlaced("with anchor 0", s, 3, 5, 7, 0, 1 + 2 + 4, 0);
         for (int what : new int[] {-1, 5, LOW, HIGH}) same("20 what " + what, r.placed(0, what), OUTSIDE);
         for (int n : new int[] {-1, 1, 6, LOW, HIGH}) same("20 tag " + n, r.placed(n, 5), UNKNOWN);
     }
@@ -597,6 +608,13 @@ public final class PromisesTest {
         isPlaced("three stay, fit or not", three, 0, 13, 3, 6667, 14, 0);
         echo(three, 2, 0);
         isPlaced("by the newer RANGE", three, 0, 10, 0, 0, 14, 0);
+        SlipRanges first = fieldOf("a0,0+0@0;a0,0+0@0;a0,0+0@0;a0,0+0@0;t10,0+0@0");
+        rangeAll(first, 4, 1, 2, 3);
+        first.path(4, 0, 99, 9);
+        first.block(4, 0);
+        first.path(4, 0, 99, 9);
+        first.exchange(4, 0);
+        isPlaced("anchor 0 is left out", first, 4, 10, 0, 0, 14, 1);
     }
 
     private static void limit() {
@@ -708,7 +726,22 @@ public final class PromisesTest {
         same("25 and ends", r.about(3), 96005 + 48000 + 510 + 48000);
     }
 
+    /** The ANCHOR of each EXCHANGE by a FRAME, one a FRAME. */
+    private static void frameTurns(String text, int tag, int... anchors) {
+        SlipRanges r = fieldOf(text);
+        r.want(tag, 16);
+        r.deal();
+        for (int anchor : anchors) {
+            same("25 NEXT", r.node(tag, 8), anchor);
+            r.frame();
+            same("25 turn", r.last(11), anchor);
+        }
+    }
+
     private static void frameEdges() {
+        frameTurns("t0,0+0@0;a3,4+0@0;a6,8+0@0;a9,9+0@0", 0, 1, 2, 3, 1, 2);
+        frameTurns("a3,4+0@0;a6,8+0@0;t0,0+0@0;t0,0+0@0;a9,9+0@0", 2, 0, 1, 4, 0, 1);
+        frameTurns(PAIR, 1, 0, 0);
         SlipRanges r = fieldOf(PAIR);
         for (int i = 0; i < 99; i++) r.idle(99999);
         r.idle(52099);
@@ -775,7 +808,24 @@ public final class PromisesTest {
         h = fold(h, 1, -1, -1, -1, -1, -1, -1, -1, -1, -1, -1, -1, -1, -1, -1, -1);
         same("28 with a field", r.digest(), fold(h, 116, 1, 1, 0, 1, 0));
         same("28 again", r.digest(), fold(h, 116, 1, 1, 0, 1, 0));
+        digestOfAnotherNode0();
         digestOfPlaced();
+    }
+
+    private static void digestOfAnotherNode0() {
+        SlipRanges r = fieldOf("t6,8+0@0;a0,0+0@0;t3,4+0@0");
+        r.block(0, 1);
+        r.exchange(0, 1);
+        long h = fold(1601, 3, 2, 1, 1, 4, 400, 0, 0, 1, 6, 8, 0, 0, 100, 1, 0, 1);
+        h = fold(h, 0, 0, 0, 0, 0, 100, 1, -1, -1, 1, 3, 4, 0, 0, 100, 1, 0, 1, 100, -1, -1, 50, 0, -1);
+        for (int slot = 0; slot < 16; slot++) h = fold(h, NONE);
+        same("28 one that is LOST is not told", r.digest(), fold(h, 0, 1, 1, 1, 0));
+        r.exchange(2, 1);
+        h = fold(1601, 3, 2, 1, 361, 4, 400, 0, 0, 1, 6, 8, 0, 0, 100, 361, 0, 1);
+        h = fold(h, 0, 0, 0, 0, 0, 100, 361, -1, -1, 1, 3, 4, 0, 0, 100, 361, 0, 1, 100, -1, -1, 50, 0, 50);
+        h = fold(h, 1, 51, 151, 201, 301, 351, 50, 50, 50, 2, 1, 50);
+        for (int slot = 0; slot < 16; slot++) h = fold(h, NONE);
+        same("28 node 0 heard", r.digest(), fold(h, 0, 2, 1, 1, 0));
     }
 
     private static void digestOfPlaced() {
