@@ -31,11 +31,14 @@ public final class EdgesOfRunsTest {
         misfitByNone();
         fitOfSeveral();
         fitInTheCorners();
+        fitAtEachPlace();
         placedByThree();
         threeStay();
         aboveLimit();
         limitsOnBothSides();
         leftOutOfSeveral();
+        leftOutByTheFirstPlace();
+        leftOutAnchor0();
         leftOutAgainAndAgain();
         leftOutDownToThree();
         placedAnew();
@@ -56,6 +59,7 @@ public final class EdgesOfRunsTest {
         digestWithoutAField();
         digestWithAFieldAlone();
         digestOfLostOnly();
+        digestOfOnePlaced();
         CHECK.end("EdgesOfRunsTest");
     }
 
@@ -280,6 +284,7 @@ public final class EdgesOfRunsTest {
         SlipRanges r = fieldOf("t5,5+0@0;a0,0+0@0;t0,0+0@0");
         same("none has", r.misfit(0, 31, 31), 0);
         r.exchange(2, 1);
+        same("another TAG's", r.misfit(2, 31, 31), 438 * 438);
         same("another TAG's is not its own", r.misfit(0, 31, 31), 0);
         r.block(0, 1);
         r.exchange(0, 1);
@@ -313,6 +318,33 @@ public final class EdgesOfRunsTest {
         SlipRanges r = fieldOf("t31,31+0@0;a0,0+0@0;a0,0+0@0;a0,0+0@0");
         for (int anchor = 1; anchor <= 3; anchor++) echo(r, anchor, 150);
         placedIs("beyond the corner", r, 0, 31, 31, 3 * 150 * 150, 14, 0);
+    }
+
+    /** The first of all places, row by row, that is as far from each ANCHOR as that one is. */
+    private static int firstAsFar(SlipRanges r, int tag, int... anchors) {
+        for (int place = 0; place < 32 * 32; place++) {
+            int off = 0;
+            for (int anchor : anchors) {
+                int dx = r.node(anchor, 1) - place % 32;
+                int dy = r.node(anchor, 2) - place / 32;
+                off += Math.abs((int) Math.sqrt(100 * (dx * dx + dy * dy)) - r.flight(tag, anchor));
+            }
+            if (off == 0) return place;
+        }
+        return -1;
+    }
+
+    /** "FIT by some ANCHORS: where MISFIT by them is least": each place may be that, also when one is LEFT OUT. */
+    private static void fitAtEachPlace() {
+        for (int place = 0; place < 32 * 32; place++) {
+            String text = "t" + place % 32 + "," + place / 32 + "+0@0;a31,31+0@0;a0,0+0@0;a31,0+0@0;a0,31+0@0";
+            int due = firstAsFar(fieldOf(text), 0, 2, 3, 4);
+            SlipRanges r = ranged(text, 0, 2, 3, 4);
+            placedIs("at place " + place, r, 0, due % 32, due / 32, 0, 4 + 8 + 16, 0);
+            echo(r, 1, 150);
+            r.limit(0);
+            placedIs("and one LEFT OUT at place " + place, r, 0, due % 32, due / 32, 0, 4 + 8 + 16, 2);
+        }
     }
 
     private static void echo(SlipRanges r, int anchor, int extra) {
@@ -400,6 +432,28 @@ public final class EdgesOfRunsTest {
         for (int anchor : new int[] {0, 1, 3, 4}) first.exchange(2, anchor);
         first.limit(0);
         placedIs("nothing to leave out", first, 2, 10, 0, 0, 1 + 2 + 8 + 16, 0);
+    }
+
+    /** Without 2 MISFIT is 0 at 0, 0 alone; beside that place 1 would seem to fit worst (40, and 73 without 2). */
+    private static void leftOutByTheFirstPlace() {
+        SlipRanges r = ranged("t0,0+0@0;a3,3+0@0;a3,3+0@0;a6,6+0@0;a3,31+0@0", 0, 1, 3, 4);
+        echo(r, 2, 50);
+        r.limit(0);
+        placedIs("the first place counts", r, 0, 0, 0, 0, 2 + 8 + 16, 4);
+    }
+
+    /** ANCHOR 0 is one as any other. */
+    private static void leftOutAnchor0() {
+        SlipRanges r = ranged("a0,0+0@0;a0,0+0@0;t10,0+0@0;a0,0+0@0;a0,0+0@0", 2, 0, 1);
+        same("two have a RANGE", r.placed(2, 0), STATE);
+        same("MISFIT by it", r.misfit(2, 0, 0), 100 * 100 + 100 * 100);
+        r.exchange(2, 3);
+        placedIs("it is one of three", r, 2, 10, 0, 0, 1 + 2 + 8, 0);
+        r.exchange(2, 4);
+        r.block(2, 0);
+        r.path(2, 0, 99, 9);
+        r.exchange(2, 0);
+        placedIs("it is LEFT OUT", r, 2, 10, 0, 0, 2 + 8 + 16, 1);
     }
 
     /** "again and again". */
@@ -690,5 +744,25 @@ public final class EdgesOfRunsTest {
         r.exchange(1, 0);
         long h = fold(fieldAlone(361), 50, 0, 50, 1, 51, 151, 201, 301, 351, 50, 50, 50, 1, 0);
         same("no other NODE to hear it", r.digest(), fold(freeSlots(h), 0, 2, 1, 1, 0));
+    }
+
+    /** "heard() of each other NODE"; "of each TAG that is PLACED placed() for 0 to 4": TAG 0 is, TAG 4 is not. */
+    private static void digestOfOnePlaced() {
+        SlipRanges r = ranged("t3,4+0@0;a0,0+0@0;a0,0+0@0;a0,0+0@0;t6,8+0@0", 0, 1, 2, 3);
+        r.exchange(4, 1);
+        r.want(4, 16);
+        r.deal();
+        int time = 3 * 360 + 510;
+        long h = fold(1601, 5, 2, 3, time, 4, 400, 1, 1, 1, 3, 4, 0, 0, 100, time, 0, 1);
+        for (int anchor = 1; anchor <= 3; anchor++) h = fold(h, 0, 0, 0, 0, 0, 100, time, NONE, NONE);
+        h = fold(h, 1, 6, 8, 0, 0, 100, time, 16, 1);
+        h = fold(h, 50, 0, 50, 50, 0, 50, 50, 0, 50, 100, 0, 100, 100, 0, NONE, 100, 0, NONE);
+        h = fold(h, 1080, 1180, 1280, 1380, 1480, 1580, 100, 100, 100, 4, 1);
+        h = fold(h, 50 + 200 - 50 - 100 - 100, 200 - 100 - 100 - 100, 200 - 100 - 100 - 100);
+        h = fold(h, r.placed(0, 0), r.placed(0, 1), 0, 14, 0);
+        h = fold(h, 4);
+        for (int slot = 1; slot < 16; slot++) h = fold(h, NONE);
+        same("one PLACED", r.digest(), fold(h, 0, 4, 0, 1, 0));
+        placedIs("FLIGHT 50 at the least y", r, 0, 5, 0, 0, 14, 0);
     }
 }

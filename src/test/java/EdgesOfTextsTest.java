@@ -36,6 +36,7 @@ public final class EdgesOfTextsTest {
         lettersByCode();
         aHundredAndTenLetters();
         blank();
+        nothingStaysBehind();
         faultOfNothing();
         faultOfAFullPage();
         faultBehindTheLongestRow();
@@ -402,6 +403,24 @@ public final class EdgesOfTextsTest {
         same("nothing of it is read", s.field(), STATE);
     }
 
+    /** "THE PAGE is empty": what stood behind its end is not read any more. */
+    private static void nothingStaysBehind() {
+        SlipRanges r = typed("a1,1+1@11;t2,2+2@22;a3,3+3@33");
+        r.blank();
+        Check.type(r, "a1,1+1@11;t2,2+2@2");
+        same("blank, fault", r.fault(), 18);
+        same("blank", r.field(), 2);
+        same("START", r.node(1, 4), 2);
+        Check.type(r, "a1,1+1@1");
+        same("read, fault", r.fault(), 8);
+        same("read", r.field(), STATE);
+        r.blank();
+        Check.type(r, "t1,1+1@1;a1,1+1@1;a1,1+1@1");
+        r.blank();
+        Check.type(r, "t1,1+1@1;a1,1+1@1");
+        same("blank, at a ;", r.field(), 2);
+    }
+
     /** "how many letters it has, if there is none". */
     private static void faultOfNothing() {
         same("empty", new SlipRanges().fault(), 0);
@@ -441,6 +460,7 @@ public final class EdgesOfTextsTest {
         for (int anchor = 3; anchor <= 6; anchor++) r.exchange(0, anchor);
         r.delay(0, 300);
         r.delay(1, 300);
+        for (int n = 2; n <= 6; n++) r.path(0, 3, 150, 9);
         r.block(0, 1);
         r.exchange(0, 1);
         r.want(0, 1);
@@ -453,7 +473,8 @@ public final class EdgesOfTextsTest {
         same("as many as at first", r.field(), 7);
         for (int anchor : new int[] {1, 3, 4, 5, 6}) {
             same("no RANGE", r.range(0, anchor), NONE);
-            same("one PATH", r.firstPath(0, anchor), 0);
+            same("EXTRA 0", r.firstPath(0, anchor), 0);
+            same("one PATH", r.block(0, anchor), 1);
         }
         same("not PLACED", r.placed(0, 0), STATE);
         same("MISFIT by none", r.misfit(0, 0, 0), 0);
