@@ -60,6 +60,8 @@ public final class EdgesOfRunsTest {
         digestWithAFieldAlone();
         digestOfLostOnly();
         digestOfOnePlaced();
+        digestOfTwoNodesToSeven();
+        sevenNodesByAnchor0();
         CHECK.end("EdgesOfRunsTest");
     }
 
@@ -764,5 +766,58 @@ public final class EdgesOfRunsTest {
         for (int slot = 1; slot < 16; slot++) h = fold(h, NONE);
         same("one PLACED", r.digest(), fold(h, 0, 4, 0, 1, 0));
         placedIs("FLIGHT 50 at the least y", r, 0, 5, 0, 0, 14, 0);
+    }
+
+    private static long withAllOf(long h, SlipRanges r) {
+        int nodes = r.about(0);
+        for (int what = 0; what <= 7; what++) h = fold(h, r.about(what));
+        for (int node = 0; node < nodes; node++) {
+            for (int what = 0; what <= 8; what++) h = fold(h, r.node(node, what));
+        }
+        for (int tag = 0; tag < nodes; tag++) {
+            for (int anchor = 0; anchor < nodes; anchor++) {
+                boolean pair = r.node(tag, 0) == 1 && r.node(anchor, 0) == 0;
+                if (pair) h = fold(h, r.flight(tag, anchor), r.firstPath(tag, anchor), r.range(tag, anchor));
+            }
+        }
+        for (int what = 1; what <= 11; what++) h = fold(h, r.last(what));
+        for (int node = 0; node < nodes; node++) {
+            if (r.last(10) != node && r.last(11) != node) h = fold(h, r.heard(node));
+        }
+        for (int tag = 0; tag < nodes; tag++) {
+            for (int what = 0; what <= 4 && r.placed(tag, 0) >= 0; what++) h = fold(h, r.placed(tag, what));
+        }
+        for (int slot = 0; slot < 16; slot++) h = fold(h, r.slot(slot));
+        return h;
+    }
+
+    /** "in order": what digest() folds is what the other calls tell, by the fewest NODES and by the most. */
+    private static void digestOfTwoNodesToSeven() {
+        String[] nodes = {"a0,0+9@9", "t3,4-9@0", "a31,0+0@0", "t9,9+99@1", "a0,31-99@9999", "t31,31+1@5", "t7,0-1@6"};
+        String text = nodes[0];
+        for (int many = 2; many <= 7; many++) {
+            text = text + ";" + nodes[many - 1];
+            SlipRanges r = fieldOf(text);
+            for (int tag = 1; tag < many; tag++) {
+                for (int anchor = 0; anchor < many; anchor++) r.exchange(tag, anchor);
+                r.want(tag, 4);
+            }
+            r.deal();
+            same("frame of " + many, r.frame(), 4 * r.about(1));
+            long h = withAllOf(1601, r);
+            for (int what = 0; what <= 4; what++) h = fold(h, r.count(what));
+            same("digest of " + many, r.digest(), h);
+        }
+    }
+
+    /** The last TAG of seven NODES has a RANGE with the first ANCHOR; that is none of the TAG ahead of it. */
+    private static void sevenNodesByAnchor0() {
+        SlipRanges r = fieldOf("a0,0+0@0;a0,0+0@0;a0,0+0@0;a0,0+0@0;t0,1+0@0;t0,2+0@0;t0,3+0@0");
+        r.exchange(6, 0);
+        same("its own", r.misfit(6, 0, 0), 30 * 30);
+        same("not of the TAG ahead", r.misfit(5, 0, 0), 0);
+        for (int anchor = 0; anchor <= 2; anchor++) r.exchange(5, anchor);
+        placedIs("the TAG ahead", r, 5, 2, 0, 0, 1 + 2 + 4, 0);
+        same("one is PLACED", r.about(7), 1);
     }
 }
