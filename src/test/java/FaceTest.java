@@ -20,6 +20,8 @@ public final class FaceTest {
     private static final int[] VALUES = {-1, -1000001, -1000002, -1000003, -1000004, -1000005};
     private static final String FORBIDDEN = "\\b(throw|throws|try|catch|synchronized|assert|\\w+Exact|float|double|random|nanoTime"
         + "|currentTimeMillis|equals|hashCode|toString|package|native|volatile|protected)\\b|->|::";
+    /** What the class uses of the library; all of it stands in rule 4. */
+    private static final Set<String> LIBRARY = Set.of("Arrays.fill", "Math.floorDiv", "Math.max", "Integer.bitCount");
     private static final int MOST_CLASSES = 12, MOST_FIELDS = 20, MOST_PARAMETERS = 7, MOST_LINES = 60;
 
     private static final Check CHECK = new Check();
@@ -110,7 +112,24 @@ public final class FaceTest {
         String code = text.replaceAll("(?s)/\\*.*?\\*/", "").replaceAll("//.*", "");
         Matcher forbidden = Pattern.compile(FORBIDDEN).matcher(code);
         while (forbidden.find()) CHECK.holds("no " + forbidden.group(), false);
+        library(code);
         methodLengths(text.split("\n"));
+    }
+
+    /** Rule 4: no more of the library than that, and nothing is made but rows of numbers and its own classes. */
+    private static void library(String code) {
+        Matcher imported = Pattern.compile("\\bimport\\b[^;]*;").matcher(code);
+        while (imported.find()) CHECK.holds("the only one: " + imported.group(), imported.group().equals("import java.util.Arrays;"));
+        Matcher used = Pattern.compile("\\b([A-Z]\\w*[.]\\w+)\\(").matcher(code);
+        while (used.find()) CHECK.holds("in the library: " + used.group(1), LIBRARY.contains(used.group(1)));
+        Set<String> own = new TreeSet<>(Set.of("int", "long"));
+        for (Class<?> inside : SlipRanges.class.getDeclaredClasses()) own.add(inside.getSimpleName());
+        Matcher made = Pattern.compile("\\bnew (\\w+)").matcher(code);
+        while (made.find()) CHECK.holds("its own: new " + made.group(1), own.contains(made.group(1)));
+        Matcher outside = Pattern.compile("\\b(String|StringBuilder|List|ArrayList|System|Object|Thread|java)\\b").matcher(code);
+        int others = 0;
+        while (outside.find()) others++;
+        CHECK.same("names from outside, beside the one import", others, 1);
     }
 
     /** A method ends at the first closing brace that stands as far in as its head. */
